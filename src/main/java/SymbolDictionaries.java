@@ -277,9 +277,13 @@ public final class SymbolDictionaries {
         }
 
         int setRow(int symbol, int y, int bits) {
-            int kept = bits & ((1 << widths[symbol]) - 1);
+            int kept = withinWidth(symbol, bits);
             rows[symbol * MOST_SIDE + y] = kept;
             return Integer.bitCount(kept);
+        }
+
+        private int withinWidth(int symbol, int bits) {
+            return bits & ((1 << widths[symbol]) - 1);
         }
 
         boolean isBlack(int symbol, int x, int y) {
@@ -311,7 +315,7 @@ public final class SymbolDictionaries {
             int row = rowOf(base, baseY);
             int dx = dxs[symbol];
             int shifted = dx >= 0 ? row << dx : row >> -dx;
-            return shifted & ((1 << widths[symbol]) - 1);
+            return withinWidth(symbol, shifted);
         }
 
         boolean comesBefore(int a, int b) {
