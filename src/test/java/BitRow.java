@@ -3,13 +3,11 @@ import java.util.List;
 
 /** Bits as the document tells them, and the bytes that they make: worked out apart from the class. */
 final class BitRow {
-    private static final int NO_CONTEXT = -1;
-
     private final List<Integer> bits = new ArrayList<>();
     private final List<Integer> contexts = new ArrayList<>();
 
     BitRow bit(int bit) {
-        return inPlane(bit, NO_CONTEXT);
+        return inPlane(bit, Interval.NO_CONTEXT);
     }
 
     BitRow inPlane(int bit, int context) {
@@ -33,8 +31,25 @@ final class BitRow {
         return text("0".repeat(shown.length() - 1) + shown);
     }
 
+    BitRow numbers(int... numbers) {
+        for (int n : numbers) {
+            number(n);
+        }
+        return this;
+    }
+
     BitRow fourBits(int n) {
         return text(Integer.toBinaryString(16 + n).substring(1));
+    }
+
+    /** A symbol without a base: how much wider it is, and its rows. */
+    BitRow symbol(int kind, int wider, String... rows) {
+        return bit(1).number(wider).bit(0).plane(kind, false, rows);
+    }
+
+    /** A symbol with a base: how much wider it is, how many are between, the shift, and its plane. */
+    BitRow refined(int kind, int wider, int between, int dx, int dy, String... plane) {
+        return bit(1).number(wider).bit(1).number(between).fourBits(dx + 4).fourBits(dy + 4).plane(kind, true, plane);
     }
 
     /** A plane by its rows, the leftmost sample first, as a kind tells it. */
@@ -44,12 +59,16 @@ final class BitRow {
         }
         for (int y = 0; y < rows.length; y++) {
             for (int x = 0; x < rows[y].length(); x++) {
-                int context = (withBase ? 16 : 0) + 8 * sample(rows, x - 1, y) + 4 * sample(rows, x - 1, y - 1)
-                    + 2 * sample(rows, x, y - 1) + sample(rows, x + 1, y - 1);
-                inPlane(sample(rows, x, y), context);
+                inPlane(rows[y].charAt(x) - '0', context(withBase, rows, x, y));
             }
         }
         return this;
+    }
+
+    /** The context of a place; only what is told before it is looked at. */
+    static int context(boolean withBase, String[] rows, int x, int y) {
+        return (withBase ? 16 : 0) + 8 * sample(rows, x - 1, y) + 4 * sample(rows, x - 1, y - 1)
+            + 2 * sample(rows, x, y - 1) + sample(rows, x + 1, y - 1);
     }
 
     private static int sample(String[] rows, int x, int y) {
@@ -71,6 +90,18 @@ final class BitRow {
         return this;
     }
 
+    int size() {
+        return bits.size();
+    }
+
+    Interval interval() {
+        Interval interval = new Interval();
+        for (int i = 0; i < bits.size(); i++) {
+            interval.put(bits.get(i), contexts.get(i));
+        }
+        return interval;
+    }
+
     int[] bytes(int kind) {
         List<Integer> bytes = kind == 2 ? bytesByChances() : plainBytes();
         return bytes.stream().mapToInt(Integer::intValue).toArray();
@@ -89,46 +120,11 @@ final class BitRow {
     }
 
     private List<Integer> bytesByChances() {
-        List<Integer> bytes = new ArrayList<>();
-        long[] chances = evenChances();
-        long low = 0;
-        long high = (1L << 32) - 1;
-        for (int i = 0; i < bits.size(); i++) {
-            long split = low + (high - low) * taken(chances, contexts.get(i)) / 65536;
-            if (bits.get(i) == 1) {
-                high = split;
-            } else {
-                low = split + 1;
-            }
-            learn(chances, contexts.get(i), bits.get(i));
-            while (low / (1 << 24) == high / (1 << 24)) {
-                bytes.add((int) (low / (1 << 24)));
-                low = low % (1 << 24) * 256;
-                high = high % (1 << 24) * 256 + 255;
-            }
+        Interval interval = interval();
+        List<Integer> bytes = new ArrayList<>(interval.bytes);
+        for (int b : interval.end()) {
+            bytes.add(b);
         }
-        bytes.add((int) ((low + 65535) / (1 << 24)));
-        bytes.add((int) ((low + 65535) / (1 << 16) % 256));
         return bytes;
-    }
-
-    static long[] evenChances() {
-        long[] chances = new long[32];
-        java.util.Arrays.fill(chances, 32768);
-        return chances;
-    }
-
-    static long taken(long[] chances, int context) {
-        if (context == NO_CONTEXT) {
-            return 32768;
-        }
-        return chances[context] < 64 ? 64 : chances[context] > 65472 ? 65472 : chances[context];
-    }
-
-    static void learn(long[] chances, int context, int bit) {
-        if (context == NO_CONTEXT) {
-            return;
-        }
-        chances[context] += bit == 1 ? (65535 - chances[context]) / 16 : -(chances[context] / 16);
     }
 }

@@ -1,18 +1,18 @@
+import java.util.function.BooleanSupplier;
+import java.util.function.LongSupplier;
+
 /** What the tests share: they say what is due of a call, and end with 1 if one answered otherwise. */
 final class Due {
-    /** A call; it may throw. */
-    interface Call {
-        long answer();
-    }
-
-    private static final String[] MAY_BE_THROWN = {
-        "IndexOutOfBoundsException", "IllegalArgumentException", "IllegalStateException", "UnsupportedOperationException"
-    };
-
+    private static String sentence = "";
     private static int wrong = 0;
     private static int asked = 0;
 
     private Due() {
+    }
+
+    /** The sentence, or part of one, that is held to from here on; SentencesTest looks it up in the document. */
+    static void sentence(String where, String quoted) {
+        sentence = where + ", \"" + quoted + "\": ";
     }
 
     static long of(boolean answer) {
@@ -20,11 +20,11 @@ final class Due {
     }
 
     /** An answer as text: a number, or the name of what the call throws. */
-    static String told(Call call) {
+    static String told(LongSupplier call) {
         try {
-            return Long.toString(call.answer());
+            return Long.toString(call.getAsLong());
         } catch (RuntimeException e) {
-            // The machine's own exceptions are classes below these, so the exact class tells them apart.
+            // The machine's own exceptions are classes below the document's, so the exact class tells them apart.
             return e.getClass().getSimpleName();
         }
     }
@@ -33,28 +33,32 @@ final class Due {
         asked++;
         if (!got.equals(due)) {
             wrong++;
-            System.out.println(what + " answered " + got + ", due is " + due);
+            System.out.println(sentence + what + " answered " + got + ", due is " + due);
         }
     }
 
-    static void is(String what, long due, Call call) {
+    static void is(String what, long due, LongSupplier call) {
         same(what, told(call), Long.toString(due));
     }
 
-    static void index(String what, Call call) {
-        same(what, told(call), MAY_BE_THROWN[0]);
+    static void is(String what, boolean due, BooleanSupplier call) {
+        same(what, told(() -> of(call.getAsBoolean())), Long.toString(of(due)));
     }
 
-    static void argument(String what, Call call) {
-        same(what, told(call), MAY_BE_THROWN[1]);
+    static void index(String what, LongSupplier call) {
+        same(what, told(call), "IndexOutOfBoundsException");
     }
 
-    static void state(String what, Call call) {
-        same(what, told(call), MAY_BE_THROWN[2]);
+    static void argument(String what, LongSupplier call) {
+        same(what, told(call), "IllegalArgumentException");
     }
 
-    static void unsupported(String what, Call call) {
-        same(what, told(call), MAY_BE_THROWN[3]);
+    static void state(String what, LongSupplier call) {
+        same(what, told(call), "IllegalStateException");
+    }
+
+    static void unsupported(String what, LongSupplier call) {
+        same(what, told(call), "UnsupportedOperationException");
     }
 
     static int wrong() {

@@ -213,10 +213,7 @@ final class Model {
     /** Bits out of what is waiting; kind 2 finds each by the number that all bytes make. */
     private final class Source {
         private int bitsTaken;
-        private int bytesTaken = 4;
-        private final long[] chances = BitRow.evenChances();
-        private long low = 0;
-        private long high = (1L << 32) - 1;
+        private final Interval interval = new Interval();
 
         private int byteOrZero(int i) {
             return i < waiting.size() ? waiting.get(i) : 0;
@@ -229,22 +226,11 @@ final class Model {
                 return b >> (7 - (bitsTaken - 1) % 8) & 1;
             }
             long code = 0;
-            for (int i = bytesTaken - 4; i < bytesTaken; i++) {
-                code = code * 256 + byteOrZero(i);
+            for (int i = 0; i < 4; i++) {
+                code = code * 256 + byteOrZero(interval.bytes.size() + i);
             }
-            long split = low + (high - low) * BitRow.taken(chances, context) / 65536;
-            int bit = code <= split ? 1 : 0;
-            if (bit == 1) {
-                high = split;
-            } else {
-                low = split + 1;
-            }
-            BitRow.learn(chances, context, bit);
-            while (low / (1 << 24) == high / (1 << 24)) {
-                low = low % (1 << 24) * 256;
-                high = high % (1 << 24) * 256 + 255;
-                bytesTaken++;
-            }
+            int bit = code <= interval.split(context) ? 1 : 0;
+            interval.put(bit, context);
             return bit;
         }
 
