@@ -386,7 +386,6 @@ public final class SymbolDictionaries {
 
         void removeAll() {
             size = 0;
-            taken = 0;
         }
 
         void add(int b) {

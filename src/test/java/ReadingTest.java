@@ -583,11 +583,13 @@ public final class ReadingTest {
             return made;
         });
         Due.same("runs 1 0 1 0 0 2", d.samples(0), "0011");
+        // As many as can be fed in 512 calls.
         BitRow endless = new BitRow().numbers(1, 0).bit(1).number(1).bit(0);
-        for (int i = 0; i < 2800; i++) {
+        for (int i = 0; i < 4000; i++) {
             endless.number(0);
         }
-        refused("2800 runs of 0, then none", 1, 7, endless);
+        Counted fed = new Counted(1);
+        Due.is("4000 runs of 0, then none", -8, () -> read(fed, 1, endless));
     }
 
     private static void exportsAsTold(int kind) {

@@ -69,10 +69,14 @@ public final class SentencesTest {
         for (String sentence : text.split("\\n|(?<!\\.)\\. (?=[A-Z])")) {
             String plain = sentence.trim();
             if (!plain.isEmpty() && !plain.equals("WRITING:")) {
-                boolean quoted = quotes.stream().anyMatch(q -> q.where.equals(where) && q.text.replaceAll("\\.$", "").length() > 0
-                    && plain.replaceAll("\\.$", "").contains(q.text.replaceAll("\\.$", "")));
+                boolean quoted = quotes.stream().anyMatch(q -> q.where.equals(where) && plain.contains(withoutStop(q.text)));
                 Due.is(where + ": a test is for \"" + plain + "\"", true, () -> quoted);
             }
         }
+    }
+
+    /** Splitting takes a sentence's full stop away. */
+    private static String withoutStop(String text) {
+        return text.replaceAll("\\.$", "");
     }
 }

@@ -29,6 +29,7 @@ public final class SymbolsTest {
         rowTouchesOneRow();
         atEveryCorner();
         refinedAnswersTheBaseBefore();
+        refinedLeavesSamples();
         refinedToNone();
         refinedNoSuchBase();
         refinedWrongShift();
@@ -339,6 +340,10 @@ public final class SymbolsTest {
         });
         Due.same("this symbol", d.samples(0), "010" + "000" + "111");
         Due.same("the other", d.samples(1), "000000000");
+        Counted rows = new Counted(0);
+        rows.symbol(3, 2);
+        rows.row(0, 0, -1);
+        Due.is("black in this row alone", 2, () -> rows.row(0, 1, 0b101));
     }
 
     private static void atEveryCorner() {
@@ -369,6 +374,22 @@ public final class SymbolsTest {
         Due.is("symbol 1 before none", 1, () -> d.refined(2, NONE, 0, 0));
         Due.is("none before none", NONE, () -> d.refined(2, NONE, 0, 0));
         Due.is("others keep theirs", NONE, () -> d.told(1, 4));
+    }
+
+    private static void refinedLeavesSamples() {
+        Due.sentence("Promise 6", "A symbol has a base, or none");
+        Alike d = new Alike(() -> {
+            Counted made = new Counted(0);
+            made.symbol(2, 1);
+            made.symbol(2, 1);
+            made.row(0, 0, 0b11);
+            made.row(1, 0, 0b10);
+            made.refined(1, 0, 1, 0);
+            made.put(0, 0, 0, false);
+            return made;
+        });
+        Due.same("the symbol", d.samples(1), "01");
+        Due.same("the base", d.samples(0), "01");
     }
 
     private static void refinedToNone() {

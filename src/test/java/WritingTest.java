@@ -22,22 +22,27 @@ public final class WritingTest {
             shifts(kind);
             planeRowByRow(kind);
             planeOverBase(kind);
+            baseAsItIsNow(kind);
+            baseWithABase(kind);
             whiteOutsideOfTheBase(kind);
             endOfHeight(kind);
             exports(kind);
             noExportsOfNothing(kind);
             howManyBytes(kind);
             writtenAgain(kind);
+            writingChangesNothing(kind);
             writtenLast(kind);
             bytesAtTheirEnds(kind);
         }
         bitByBit();
+        bitByBitWithChances();
         chancesOutsideOfPlanes();
         contextsOutside();
         everyContext();
         chancesEvenAtFirst();
         chancesAtTheirEnds();
         chancesRoundDown();
+        splitsRoundDown();
         manyBytesAtOnce();
         endOfTheInterval();
         Due.end();
@@ -277,6 +282,40 @@ public final class WritingTest {
         return x < 0 || y < 0 || y >= rows.length || x >= rows[0].length() ? '0' : rows[y].charAt(x);
     }
 
+    private static void baseAsItIsNow(int kind) {
+        Due.sentence("Terms", "whether it differs from the base's sample");
+        BitRow due = new BitRow().numbers(2, 0).symbol(kind, 3, "011").refined(kind, 0, 0, 0, 0, "100").bit(0).number(2);
+        dueBytes("the base is changed later", kind, d -> {
+            drawn(d, "111");
+            drawn(d, "111");
+            d.refined(1, 0, 0, 0);
+            d.put(0, 0, 0, false);
+        }, due);
+    }
+
+    private static void baseWithABase(int kind) {
+        Due.sentence("Terms", "whether it differs from the base's sample");
+        BitRow due = new BitRow().numbers(3, 0).symbol(kind, 4, "1100");
+        due.refined(kind, 0, 0, 1, 0, "1100").refined(kind, 0, 0, 1, 0, "1010").bit(0).number(3);
+        Consumer<Counted> made = d -> {
+            drawn(d, "1100");
+            drawn(d, "1010");
+            drawn(d, "1111");
+            d.refined(1, 0, 1, 0);
+            d.refined(2, 1, 1, 0);
+        };
+        dueBytes("its samples, not its plane", kind, made, due);
+        Alike back = new Alike(() -> {
+            Counted d = new Counted(kind);
+            made.accept(d);
+            d.write();
+            d.pass();
+            d.read();
+            return d;
+        });
+        Due.same("read back", back.samples(0) + " " + back.samples(1) + " " + back.samples(2), "1100 1010 1111");
+    }
+
     private static void whiteOutsideOfTheBase(int kind) {
         Due.sentence("Terms", "(white outside of that)");
         String[] small = {"1"};
@@ -405,6 +444,18 @@ public final class WritingTest {
         dueBytes("samples as they are", 0, d -> drawn(d, "101", "010"), due);
     }
 
+    private static void bitByBitWithChances() {
+        Due.sentence("Terms", "2: bit by bit, each with its CHANCE.");
+        // Every row of up to four samples, so that each bit is once 0 and once 1 behind the same ones.
+        for (int width = 1; width <= 4; width++) {
+            for (int bits = 0; bits < 1 << width; bits++) {
+                String row = Integer.toBinaryString(1 << width | bits).substring(1);
+                BitRow due = new BitRow().numbers(1, 0).symbol(2, width, row).bit(0).number(1);
+                dueBytes("row " + row, 2, d -> drawn(d, row), due);
+            }
+        }
+    }
+
     private static void chancesOutsideOfPlanes() {
         Due.sentence("Terms", "Kind 2: every bit has a chance p (of being 1): 32768");
         // All but the planes goes by even chances, also where the planes have taught others.
@@ -512,6 +563,24 @@ public final class WritingTest {
         }
     }
 
+    private static void splitsRoundDown() {
+        Due.sentence("Terms", "There is an interval LOW .. HIGH, 0 .. 2^32 - 1 at first; SPLIT is LOW and (HIGH - LOW) p / 65536, "
+            + "downward; for 1, HIGH is SPLIT, for 0, LOW is SPLIT + 1");
+        // Long planes without any rule: a number off by one anywhere shows in the bytes behind it.
+        String[] noise = {"0100110101111000", "1101001011100010", "0011101000101101", "1000011110110100", "0111001101011010"};
+        for (int from = 0; from < noise.length; from++) {
+            String[] rows = new String[15];
+            for (int y = 0; y < rows.length; y++) {
+                rows[y] = noise[(from + y + y / 5) % 5];
+            }
+            BitRow due = new BitRow().numbers(2, 14).symbol(2, 16, rows).symbol(2, 0, rows).bit(0).number(2);
+            dueBytes("noise " + from, 2, d -> {
+                drawn(d, rows);
+                drawn(d, rows);
+            }, due);
+        }
+    }
+
     /** Samples that keep the interval across a change of the highest byte, till it is one number wide. */
     private static void manyBytesAtOnce() {
         Due.sentence("Terms", "as long as the highest bytes of both (of four) are the same, that byte is put out, and both are "
@@ -563,9 +632,13 @@ public final class WritingTest {
                 met[which] = true;
             }
         }
-        Due.is("the highest byte is one more", true, () -> met[0]);
-        Due.is("the other ends", true, () -> met[2]);
+        Due.is("the test has an end with the highest byte one more", true, () -> met[0]);
+        Due.is("the test has an end with two bytes 0 behind", true, () -> met[1]);
         dueBytes("LOW is 0", 2, d -> { }, new BitRow().number(0));
+        // Found by trying: of all that take the second byte one up, LOW ends here in the least, 1.
+        BitRow least = new BitRow().numbers(1, 1).symbol(2, 9, "000111011", "100011111").bit(0).numbers(0, 1);
+        Due.is("the test's LOW ends in 1", 1, () -> least.interval().low() & 65535);
+        dueBytes("LOW ends in 1", 2, d -> d.export(drawn(d, "000111011", "100011111"), true), least);
     }
 
     private static void howManyBytes(int kind) {
@@ -599,6 +672,32 @@ public final class WritingTest {
             d.write();
             d.put(2, 0, 0, false);
         }, due);
+    }
+
+    private static void writingChangesNothing(int kind) {
+        Due.sentence("Promise 8", "The dictionary is written");
+        Consumer<Counted> made = d -> {
+            drawn(d, "11", "10");
+            drawn(d, "1");
+            drawn(d, "01", "10");
+            d.refined(2, 0, -1, 1);
+            d.export(1, true);
+            d.classes(2);
+            d.feed(1);
+        };
+        Alike before = new Alike(() -> {
+            Counted d = new Counted(kind);
+            made.accept(d);
+            return d;
+        });
+        Alike behind = new Alike(() -> {
+            Counted d = new Counted(kind);
+            made.accept(d);
+            d.write();
+            return d;
+        });
+        Due.same("symbols", behind.symbols(), before.symbols());
+        Due.is("to be read", 1, () -> behind.one().count(2));
     }
 
     /** Forty boards of the largest size, one in samples and the others over it: the most bytes that kind 1 makes. */
