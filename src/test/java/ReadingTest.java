@@ -22,6 +22,7 @@ public final class ReadingTest {
             readNumbersInOrder(kind);
             readGoesTheSameWay(kind);
             readGoes(kind);
+            readTheLargest(kind);
             refusedByEach(kind);
             dictionaryStays(kind);
             nothingIsLeftBehind(kind);
@@ -274,6 +275,30 @@ public final class ReadingTest {
         Due.is("it went, though it was refused", 0, () -> d.count(2));
         Due.is("one behind it", 1, () -> read(d, kind, small(kind, 1).number(1)));
         Due.is("nothing is written by it", 0, () -> d.count(1));
+    }
+
+    private static void readTheLargest(int kind) {
+        Due.sentence("Promise 12", "What is to be read makes the dictionary");
+        Alike d = new Alike(() -> {
+            Counted made = new Counted(kind);
+            for (int i = 0; i < 40; i++) {
+                made.symbol(16, 16);
+            }
+            made.row(0, 15, -1);
+            made.row(39, 0, 1);
+            made.row(39, 15, 0x8000);
+            made.refined(39, 0, 4, -4);
+            made.export(39, true);
+            made.write();
+            made.pass();
+            Due.is("40 symbols, each 16 by 16", 40, made::read);
+            return made;
+        });
+        Due.same("the first", d.samples(0), "0".repeat(240) + "1".repeat(16));
+        Due.same("the one before the last", d.samples(38), "0".repeat(256));
+        Due.same("the last", d.samples(39), "1" + "0".repeat(254) + "1");
+        Due.is("the last is exported", 1, () -> d.one().told(39, 3));
+        Due.is("the first is not", 0, () -> d.one().told(0, 3));
     }
 
     private static BitRow[] refusals(int kind) {
